@@ -341,9 +341,15 @@ public final class SingingSaw {
     }
 
     public int which(int slip) {
-        int answer = isSlip(slip) && tellsTones() ? fittingBlades(slip) : NONE;
+        boolean asTold = isSlip(slip) && tellsTones();
+        int bits = asTold ? 0 : NONE;
+        for (int k = 0; asTold && k < SHELF_PLACES; k++) {
+            if (now.shelf[k] != null && isFitting(now.shelf[k], slip)) {
+                bits = bits | 1 << k;
+            }
+        }
         tape.size = 0;
-        return answer;
+        return bits;
     }
 
     public int form(int low, int high) {
@@ -530,16 +536,6 @@ public final class SingingSaw {
         return true;
     }
 
-    private int fittingBlades(int slip) {
-        int bits = 0;
-        for (int k = 0; k < SHELF_PLACES; k++) {
-            if (now.shelf[k] != null && isFitting(now.shelf[k], slip)) {
-                bits = bits | 1 << k;
-            }
-        }
-        return bits;
-    }
-
     private boolean isFitting(Blade blade, int slip) {
         for (int i = 0; i < tape.size; i += 3) {
             int k = tape.byteAt(i);
@@ -682,6 +678,18 @@ public final class SingingSaw {
             while (start < limit && isBlank(tape.byteAt(start))) {
                 start++;
             }
+            int letters = 0;
+            int digits = 0;
+            value = 0;
+            for (stop = start; stop < tape.size && isOfRun(tape.byteAt(stop)); stop++) {
+                int c = tape.byteAt(stop);
+                if (c >= 'a') {
+                    letters++;
+                } else {
+                    digits++;
+                    value = digits <= 4 ? value * 10 + c - '0' : value;
+                }
+            }
             if (start >= limit && tape.size > limit) {
                 // A text that is too long has its FAULT at the limit, wherever the last TOKEN ended.
                 start = limit;
@@ -689,48 +697,28 @@ public final class SingingSaw {
             } else if (start >= tape.size) {
                 start = tape.size;
                 kind = END;
-            } else if (isLetter(tape.byteAt(start)) || isDigit(tape.byteAt(start))) {
-                scanRun();
+            } else if (stop > start) {
+                kind = kindOfRun(letters, digits);
             } else {
                 value = tape.byteAt(start);
-                stop = start + 1;
                 kind = isSignByte(value) ? SIGN : NO_TOKEN;
+                stop = start + 1;
             }
         }
 
-        private void scanRun() {
-            int letters = 0;
-            int digits = 0;
-            value = 0;
-            for (stop = start; stop < tape.size; stop++) {
-                int c = tape.byteAt(stop);
-                if (isLetter(c)) {
-                    letters++;
-                } else if (isDigit(c)) {
-                    digits++;
-                    value = digits <= 4 ? value * 10 + c - '0' : value;
-                } else {
-                    break;
-                }
-            }
-            kind = NO_TOKEN;
+        private static int kindOfRun(int letters, int digits) {
             if (letters == 0 && digits <= 4) {
-                kind = NUMBER;
-            } else if (digits == 0 && letters <= 6) {
-                kind = WORD;
+                return NUMBER;
             }
+            return digits == 0 && letters <= 6 ? WORD : NO_TOKEN;
         }
 
         private static boolean isBlank(int c) {
             return c == ' ' || c == 10;
         }
 
-        private static boolean isLetter(int c) {
-            return c >= 'a' && c <= 'z';
-        }
-
-        private static boolean isDigit(int c) {
-            return c >= '0' && c <= '9';
+        private static boolean isOfRun(int c) {
+            return c >= 'a' && c <= 'z' || c >= '0' && c <= '9';
         }
 
         private static boolean isSignByte(int c) {
@@ -791,6 +779,18 @@ public final class SingingSaw {
             if (!skipWord(word)) {
                 fail(1);
             }
+        }
+
+        int comparison() {
+            int sign = value;
+            if (kind != SIGN || sign < '<' || sign > '>') {
+                fail(1);
+            }
+            if (fault != 0) {
+                return 0;
+            }
+            advance();
+            return sign;
         }
 
         /** A NUMBER from low to high; room is how many more may come, beyond which it is FAULT 4. */
@@ -1442,25 +1442,16 @@ public final class SingingSaw {
                 addStep(NOT, 0, 0);
             } else if (t.skipSign('(')) {
                 readCond(t, depth + 1);
-                t.mustBeSign(')');
-            } else {
-                readLeaf(t, leaf);
-            }
-        }
-
-        private void readLeaf(Tokens t, int leaf) {
-            t.advance();
-            if (leaf >= SINGS) {
+                if (!t.skipSign(')')) {
+                    t.fail(1);
+                }
+            } else if (leaf >= SINGS) {
+                t.advance();
                 addStep(leaf, 0, 0);
-                return;
+            } else {
+                t.advance();
+                addStep(leaf, t.comparison(), t.number(0, MOST_TOLD, MOST_TOLD));
             }
-            int sign = t.value;
-            if (!t.isSign('<') && !t.isSign('=') && !t.isSign('>')) {
-                t.fail(1);
-                return;
-            }
-            t.advance();
-            addStep(leaf, sign, t.number(0, MOST_TOLD, MOST_TOLD));
         }
 
         private static int leafAt(Tokens t) {

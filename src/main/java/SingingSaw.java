@@ -33,6 +33,8 @@ public final class SingingSaw {
     private static final int SENTENCE_BYTES = 200;
     private static final int NO_PIECE = 99;
     private static final int WIDEST_CHOICE = 5;
+    // Less than any RANGE, that of a FORM without a VOICE (-1) too.
+    private static final int BROKEN_RANGE = -2;
 
     private final Tape tape = new Tape();
     private final Tokens tokens = new Tokens(tape);
@@ -358,7 +360,7 @@ public final class SingingSaw {
         }
         trial.copyFrom(now.blade);
         int best = NONE;
-        int most = NOT_AS_TOLD;
+        int most = BROKEN_RANGE;
         for (int s = low; s <= high; s++) {
             for (int e = low; e <= high; e++) {
                 trial.thicken(s, e);
@@ -547,14 +549,14 @@ public final class SingingSaw {
         return true;
     }
 
-    /** RANGE of the FORM tried over the BOOK: -1 without a VOICE, -2 if a BEND breaks it. */
+    /** RANGE of the FORM tried over the BOOK: -1 without a VOICE, BROKEN_RANGE if a BEND breaks it. */
     private int rangeOfTrial() {
         int lowest = MOST_TONE;
         int highest = 0;
         for (int k = 0; k < now.book.size; k++) {
             listenTo(trial, now.book.knees.at(k), now.book.tips.at(k));
             if (bent.brokenAt != NONE) {
-                return NOT_AS_TOLD;
+                return BROKEN_RANGE;
             }
             if (bent.voice > 0) {
                 lowest = Math.min(lowest, bent.voice);

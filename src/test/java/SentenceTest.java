@@ -8,6 +8,7 @@ public final class SentenceTest {
         tooManyOnes();
         tooLong();
         truths();
+        tickByTick();
         bindings();
         saying();
         Check.finish("SentenceTest");
@@ -160,6 +161,22 @@ public final class SentenceTest {
         text(x, "twice and tick < 3", "1 2");
         Check.due("twice in the ticks that sing twice", x.tone(0, 0, 0, 0), 4);
         Check.due("twice there", x.run(3), 1);
+    }
+
+    /** What a TICK tells is its own: nothing of the one ahead is left in it. */
+    private static void tickByTick() {
+        SingingSaw x = withHand();
+        Check.hand(x, "wait 1;at 99 99;wait 1;at 0 0;wait 1;");
+        text(x, "twice", "1 3");
+        text(x, "rings = 0", "2");
+        x = new SingingSaw();
+        Check.hand(x, "at 9 9;wait 1;at 0 0;wait 1;");
+        text(x, "strain = 0", "2");
+        text(x, "strain < 1", "2");
+        // The lowest VOICE of all is 1.
+        Check.blade(x, BendTest.own(9, 0, 9) + "unit 1;");
+        text(x, "tone = 1", "2");
+        text(x, "sings", "1 2");
     }
 
     private static void text(SingingSaw x, String sentence, String due) {

@@ -120,6 +120,7 @@ public final class BladeTest {
         Check.fault(BLADE, x, " ".repeat(540), 500, 1);
         Check.fault(BLADE, x, " ".repeat(490) + blade, 500, 1);
         // A TOKEN that begins ahead of 500 is read whole: FAULTS of it are at it.
+        x = new SingingSaw();
         Check.fault(BLADE, x, blade + " ".repeat(482) + "unit 12;", 500, 1);
         Check.fault(BLADE, x, blade + " ".repeat(484) + "unitt;", 497, 1);
         Check.fault(BLADE, x, blade + " ".repeat(485) + "unit;", 500, 1);

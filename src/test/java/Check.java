@@ -123,6 +123,13 @@ final class Check {
         due("the tape behind '" + shown + "'", x.count(5), 0);
     }
 
+    /** The text has no FAULT. */
+    static void taken(Reader reader, SingingSaw x, String text) {
+        due("reading '" + text + "' without a FAULT", reader.read(x, text) >= 0, true);
+        due("fault() of '" + text + "'", x.fault(), 0);
+        due("the tape behind '" + text + "'", x.count(5), 0);
+    }
+
     static void fine(Reader reader, SingingSaw x, String text, int answer) {
         String shown = text.length() > 60 ? text.substring(0, 60) + ".. (" + text.length() + " bytes)" : text;
         due("reading '" + shown + "'", reader.read(x, text), answer);

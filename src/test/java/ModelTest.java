@@ -3,8 +3,9 @@ import java.util.Random;
 
 /** All promises: long runs of drawn calls (the same ones each time) against the document's slow twin. */
 public final class ModelTest {
-    private static final int RUNS = 260;
-    private static final int CALLS = 512;
+    private static final int RUNS = 900;
+    // An object has 512 calls in all: the last step may be a long one.
+    private static final int CALLS = 455;
 
     private final Random draw;
     private final SingingSaw saw = new SingingSaw();
@@ -85,7 +86,7 @@ public final class ModelTest {
     }
 
     private void feed(String text) {
-        int before = saw.count(5);
+        int before = twin.count(5);
         for (int at = 0; at < text.length(); at += 20) {
             int[] w = new int[5];
             for (int i = 0; i < 20; i++) {
@@ -313,7 +314,7 @@ public final class ModelTest {
     private void askBend() {
         int a = hand();
         int b = tip(a);
-        int i = near(0, saw.count(0) - 1);
+        int i = near(0, twin.count(0) - 1);
         int what = near(0, 1);
         same("bend(" + a + ", " + b + ", " + i + ", " + what + ")", Check.bend(saw, a, b, i, what), bendOfTwin(a, b, i, what));
         same("breaks(" + a + ", " + b + ")", saw.breaks(a, b), twin.breaks(a, b));
@@ -332,22 +333,22 @@ public final class ModelTest {
     private void askTone() {
         int a = hand();
         int b = tip(a);
-        int k = near(0, Math.max(0, saw.place(a, b, -1) - 1));
+        int k = near(0, Math.max(0, twin.place(a, b, -1) - 1));
         int m = near(0, draw.nextBoolean() ? 1 : 5);
         same("tone(" + a + ", " + b + ", " + k + ", " + m + ")", saw.tone(a, b, k, m), twin.tone(a, b, k, m));
         for (int what = -1; what <= 5; what++) {
             same("run(" + what + ")", saw.run(what), twin.run(what));
         }
-        int i = near(0, saw.count(0));
+        int i = near(0, twin.count(0));
         same("bow(" + i + ")", saw.bow(i), twin.bow(i));
-        int from = Math.max(0, saw.run(0));
+        int from = Math.max(0, twin.run(0));
         same("bow(" + from + ")", saw.bow(from), twin.bow(from));
     }
 
     private void askWhere() {
         int a = hand();
         int b = tip(a);
-        int k = near(0, Math.max(0, saw.place(a, b, -1) - 1));
+        int k = near(0, Math.max(0, twin.place(a, b, -1) - 1));
         int m = near(0, 3);
         int o = near(0, 3);
         same("where(" + a + ", " + b + ", " + k + ", " + m + ", " + o + ")", saw.where(a, b, k, m, o), twin.where(a, b, k, m, o));
@@ -355,7 +356,7 @@ public final class ModelTest {
     }
 
     private void askTick() {
-        int t = near(1, Math.max(1, saw.count(3)));
+        int t = near(1, Math.max(1, twin.count(3)));
         int what = near(0, 4);
         int want;
         try {
@@ -376,7 +377,7 @@ public final class ModelTest {
     }
 
     private void askVoices() {
-        int k = near(0, Math.max(0, saw.count(4) - 1));
+        int k = near(0, Math.max(0, twin.count(4) - 1));
         int what = near(0, 1);
         same("voice(" + k + ", " + what + ")", saw.voice(k, what), twin.voice(k, what));
         what = near(0, 3);
@@ -384,8 +385,8 @@ public final class ModelTest {
     }
 
     private int someTone() {
-        int k = draw.nextInt(Math.max(1, saw.count(4)));
-        int voice = saw.voice(k, 0);
+        int k = draw.nextInt(Math.max(1, twin.count(4)));
+        int voice = twin.voice(k, 0);
         return voice > 0 && draw.nextInt(15) > 0 ? Math.max(0, voice + upTo(30) - 15) : near(1, 2000);
     }
 
@@ -416,8 +417,8 @@ public final class ModelTest {
     }
 
     private void askEven() {
-        int j = near(0, Math.max(0, saw.count(4) - 1));
-        int k = near(0, Math.max(0, saw.count(4) - 1));
+        int j = near(0, Math.max(0, twin.count(4) - 1));
+        int k = near(0, Math.max(0, twin.count(4) - 1));
         int n = near(1, 20);
         same("even(" + j + ", " + k + ", " + n + ")", saw.even(j, k, n), twin.even(j, k, n));
         int i = near(0, 20);
@@ -444,8 +445,8 @@ public final class ModelTest {
         StringBuilder text = new StringBuilder();
         int told = draw.nextInt(20) == 0 ? 39 + upTo(2) : upTo(4);
         for (int i = 0; i < told; i++) {
-            int k = draw.nextInt(Math.max(1, saw.count(4) + (draw.nextInt(30) == 0 ? 1 : 0)));
-            int voice = saw.voice(k, 0);
+            int k = draw.nextInt(Math.max(1, twin.count(4) + (draw.nextInt(30) == 0 ? 1 : 0)));
+            int voice = twin.voice(k, 0);
             int tone = voice > 0 ? voice : draw.nextInt(40) == 0 ? 0 : 1 + upTo(300);
             text.append((char) k).append((char) (tone >> 8)).append((char) (tone & 255));
         }
@@ -458,7 +459,7 @@ public final class ModelTest {
     }
 
     private void askForm() {
-        if (saw.count(4) > 12 && draw.nextInt(10) > 0) {
+        if (twin.count(4) > 12 && draw.nextInt(10) > 0) {
             return;
         }
         int low = near(1, 20);
@@ -489,7 +490,7 @@ public final class ModelTest {
     private void askRest() {
         int what = near(0, 5);
         same("count(" + what + ")", saw.count(what), twin.count(what));
-        int i = near(0, saw.count(0) - 1);
+        int i = near(0, twin.count(0) - 1);
         what = near(0, 4);
         int want;
         try {

@@ -1,11 +1,13 @@
 import com.sun.management.ThreadMXBean;
 import java.lang.management.ManagementFactory;
 
-/** The dearest calls, 512 of each: what they make stays far below the one room that all calls of a run have. */
+/** The dearest calls, as if all 512 were of one kind: what they make stays far below the one room that all calls of a run have. */
 public final class RoomTest {
     // 7.3 million fields and elements of four bytes, less a good part for the calls' other needs.
     private static final long ROOM = 4L * 7_300_000 / 2;
     private static final int CALLS = 512;
+    // So many are made, in some of the kinds with others beside them: an object has 512 calls in all.
+    private static final int TRIED = 80;
 
     private interface Call {
         void on(SingingSaw x, int i);
@@ -23,12 +25,12 @@ public final class RoomTest {
         call.on(x, 0);
         ThreadMXBean threads = (ThreadMXBean) ManagementFactory.getThreadMXBean();
         long before = threads.getThreadAllocatedBytes(Thread.currentThread().getId());
-        for (int i = 0; i < CALLS; i++) {
+        for (int i = 0; i < TRIED; i++) {
             call.on(x, i);
         }
         long made = threads.getThreadAllocatedBytes(Thread.currentThread().getId()) - before;
-        System.out.println(name + ": " + made / CALLS + " bytes a call");
-        Check.due("room of " + CALLS + " " + name, made < ROOM, true);
+        System.out.println(name + ": " + made / TRIED + " bytes a call");
+        Check.due("room of " + CALLS + " " + name, made / TRIED * CALLS < ROOM, true);
     }
 
     public static void main(String[] args) {
@@ -47,7 +49,7 @@ public final class RoomTest {
             x.sentence();
         });
         room("form()", (x, i) -> {
-            if (i % 64 == 0) {
+            if (i % 20 == 0) {
                 x.form(4, 9);
             }
         });

@@ -136,6 +136,8 @@ public final class SentenceTest {
             values[5][t] = t;
         }
         for (int w = 0; w < 6; w++) {
+            // An object has 512 calls.
+            x = withHand();
             for (int t = 1; t <= ticks; t++) {
                 for (String sign : new String[] {"<", "=", ">"}) {
                     StringBuilder so = new StringBuilder();
@@ -151,6 +153,7 @@ public final class SentenceTest {
                 }
             }
         }
+        x = withHand();
         text(x, "sings", "1 2 3 5");
         text(x, "broken", "4 6");
         text(x, "tone = 0", "4 6");

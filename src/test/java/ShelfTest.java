@@ -7,6 +7,7 @@ public final class ShelfTest {
         forging();
         forms();
         formsThatTie();
+        formAfterForm();
         Check.finish("ShelfTest");
     }
 
@@ -206,5 +207,23 @@ public final class ShelfTest {
         Check.due("formBy() stays", x.formBy(), 0);
         Check.due("form(0, 1)", x.form(0, 1), -2);
         Check.due("formBy() stays", x.formBy(), 0);
+    }
+
+    /** Promises 30, 31: nothing of the FORMS of one BLADE is left for those of the next one. */
+    private static void formAfterForm() {
+        SingingSaw x = new SingingSaw();
+        x.write(2596, -2731);
+        x.write(894, -3967);
+        Check.blade(x, "piece 40 20 9 own 3;unit 300;");
+        Check.due("form() of another BLADE", x.form(7, 10) != -2, true);
+        Check.blade(x, "piece 11 48 5;unit 35;bear 9999;");
+        Check.due("form(7, 10)", x.form(7, 10), 1007);
+        Check.due("formBy()", x.formBy(), 4);
+        Check.due("form(7, 10) again", x.form(7, 10), 1007);
+        Check.blade(x, "piece 4 20 9 own 3;unit 300;");
+        Check.due("form() of a shorter BLADE", x.form(7, 10) != -2, true);
+        Check.blade(x, "piece 11 48 5;unit 35;bear 9999;");
+        Check.due("form(7, 10) once more", x.form(7, 10), 1007);
+        Check.due("formBy()", x.formBy(), 4);
     }
 }

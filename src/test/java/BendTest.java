@@ -16,6 +16,7 @@ public final class BendTest {
         }
     }
 
+    /** Promise 7, Terms 2: both cuts, own, 2000 either way. */
     private static void curves() {
         SingingSaw x = new SingingSaw();
         curves(x, 3750, 0, 1000, 500, 0);
@@ -42,6 +43,7 @@ public final class BendTest {
         Check.due("60 pieces: 59", x.bend(9999, -9999, 59, 1), 240);
     }
 
+    /** Promises 7, 8, 9, 10, 13, 17, 26: a or b of 10000 or -10000; no such PIECE, another what. */
     private static void wrongOnes() {
         SingingSaw x = new SingingSaw();
         int[][] wrong = {{10000, 0, 0, 0}, {-10000, 0, 0, 0}, {0, 10000, 0, 0}, {0, -10000, 0, 1}, {0, 0, 3, 0}, {0, 0, -1, 0},
@@ -61,6 +63,7 @@ public final class BendTest {
         Check.due("bend(9999, -9999, 2, 1)", Check.bend(x, 9999, -9999, 2, 1), 10000);
     }
 
+    /** Promise 8, Terms 2: a STRAIN that is just 'bear', and one above. */
     private static void breaking() {
         SingingSaw x = new SingingSaw();
         // STRAIN is CURVE times 5: 400 is just borne with 2000, 401 is not.
@@ -92,6 +95,7 @@ public final class BendTest {
         Check.due("place(" + a + ", " + b + ", MAX)", x.place(a, b, Integer.MAX_VALUE), -1);
     }
 
+    /** Promise 9, Terms 2: at the first and the last PIECE, along like WALLS; k NONE, the last one, one more. */
     private static void places() {
         SingingSaw x = new SingingSaw();
         places(x, 0, 0, 0);

@@ -14,6 +14,7 @@ public final class BladeTest {
         Check.finish("BladeTest");
     }
 
+    /** Promise 4: texts without a FAULT, the least and the greatest NUMBERS. */
     private static void fine() {
         SingingSaw x = new SingingSaw();
         Check.fine(BLADE, x, "piece 3 1 1;", 3);
@@ -25,6 +26,7 @@ public final class BladeTest {
         Check.fine(BLADE, x, "piece 3 30 5 teeth 0 own - 0;", 3);
     }
 
+    /** Promises 4, 5, Terms 1: FAULT 1 at each kind of TOKEN, and at the end. */
     private static void faultsOfTokens() {
         SingingSaw x = new SingingSaw();
         Check.fault(BLADE, x, "", 0, 1);
@@ -67,6 +69,7 @@ public final class BladeTest {
         Check.due("no blank behind ;", Check.blade(x, "piece 3 30 5;piece 4 4 4;"), 7);
     }
 
+    /** Promises 4, 5, Terms 1: FAULT 2 on each side of each NUMBER. */
     private static void faultsOfNumbers() {
         SingingSaw x = new SingingSaw();
         Check.fault(BLADE, x, "piece 0 30 5;", 6, 2);
@@ -90,6 +93,7 @@ public final class BladeTest {
         Check.fault(BLADE, x, "piece 3 100", 8, 2);
     }
 
+    /** Promises 4, 5, Terms 1: FAULT 3. */
     private static void toldTwice() {
         SingingSaw x = new SingingSaw();
         Check.fault(BLADE, x, "unit 5;unit 6;", 7, 3);
@@ -100,6 +104,7 @@ public final class BladeTest {
         Check.fine(BLADE, x, "unit 5;bear 6;piece 3 5 5;", 3);
     }
 
+    /** Promises 4, 5, Terms 1: FAULT 4, the 61st PIECE. */
     private static void tooMany() {
         SingingSaw x = new SingingSaw();
         Check.fault(BLADE, x, "piece 59 9 9;piece 2 9 9;", 19, 4);
@@ -110,6 +115,7 @@ public final class BladeTest {
         Check.fault(BLADE, x, "piece 30 9 9;piece 30 9 9;piece 1", 32, 4);
     }
 
+    /** Promises 4, 5, Terms 1: 500 bytes and 501. */
     private static void tooLong() {
         SingingSaw x = new SingingSaw();
         String blade = "piece 3 30 5;";
@@ -135,6 +141,7 @@ public final class BladeTest {
         Check.fault(BLADE, x, blade + " ".repeat(487) + "?  ", 500, 1);
     }
 
+    /** Promise 6: each what of each PIECE, and one outside on each side. */
     private static void pieces() {
         SingingSaw x = new SingingSaw();
         Check.blade(x, "piece 2 30 5;piece 1 99 20 teeth 9 own 99;piece 2 7 3 own -12;piece 1 2 1 teeth 1;");
@@ -150,6 +157,7 @@ public final class BladeTest {
         }
     }
 
+    /** Promises 4, 5: a FAULT leaves the BLADE; fault() is of the latest text alone. */
     private static void kindStays() {
         SingingSaw x = new SingingSaw();
         Check.blade(x, "piece 5 8 4;unit 8;bear 9;");

@@ -33,6 +33,7 @@ public final class BookTest {
         return x.voice(x.write(a, b), 0);
     }
 
+    /** Promise 17: 40 BENDS and a 41st. */
     private static void writing() {
         SingingSaw x = new SingingSaw();
         Check.due("write(10000, 0)", x.write(10000, 0), -1);
@@ -45,6 +46,7 @@ public final class BookTest {
         Check.due("count(4)", x.count(4), 40);
     }
 
+    /** Promise 18: each what of each BEND, and one outside on each side. */
     private static void voices() {
         SingingSaw x = withBook();
         for (int k = 0; k < BENDS.length; k++) {
@@ -66,6 +68,7 @@ public final class BookTest {
         Check.due("its voice, forged", x.voice(6, 0), voiceOf("piece 5 10 9;unit 20;", 400, -400));
     }
 
+    /** Promise 19: the first of like ones; an empty BOOK, one without a VOICE. */
     private static void ranges() {
         SingingSaw x = withBook();
         int[] range = {10, 15, 0, 1};
@@ -106,6 +109,7 @@ public final class BookTest {
         Check.due("songAt(-1)", x.songAt(-1), -1);
     }
 
+    /** Promises 20, 21: the least sum, the first of like rows, no such row. */
     private static void songs() {
         SingingSaw x = withBook();
         song(x, 0, new int[] {10}, 0, 0);
@@ -137,6 +141,7 @@ public final class BookTest {
         song(x, 0, new int[] {15, 10, 15}, 800, 2, 1, 2);
     }
 
+    /** Promises 20, 21: notes and SLIP not as told; the tape is empty, the latest row stays. */
     private static void wrongSongs() {
         SingingSaw x = withBook();
         song(x, 0, new int[] {10, 15}, 400, 0, 1);
@@ -155,6 +160,7 @@ public final class BookTest {
         Check.due("the tape behind it", x.count(5), 0);
     }
 
+    /** Promises 20, 21: 60 notes and 61. */
     private static void longSong() {
         SingingSaw x = withBook();
         int[] notes = new int[60];
@@ -179,6 +185,7 @@ public final class BookTest {
         Check.due("readAt(-1)", x.readAt(-1), -1);
     }
 
+    /** Promises 22, 23: tone and SLIP at their ends, and one outside on each side. */
     private static void reading() {
         SingingSaw x = withBook();
         read(x, 10, 0, 3, 0, 3, 4);
@@ -234,6 +241,7 @@ public final class BookTest {
         Check.due("evenAt(21)", x.evenAt(21), -1);
     }
 
+    /** Promises 24, 25: the least PART of like ones; BENDS and steps outside on each side. */
     private static void evens() {
         even(BLADE, 400, -400, 800, -400, 1);
         even(BLADE, 400, -400, 800, -400, 3);
@@ -259,6 +267,7 @@ public final class BookTest {
         Check.due("tremble(" + a + ", " + b + ", " + j + ")", x.tremble(a, b, j), v[0] == 0 ? -1 : v[2] - v[0]);
     }
 
+    /** Promise 26: J at its ends, and one outside on each side; 9999 either way at most. */
     private static void trembling() {
         SingingSaw x = new SingingSaw();
         String blade = "piece 20 60 5;unit 60;bear 9999;";

@@ -12,6 +12,7 @@ public final class HandTest {
         Check.finish("HandTest");
     }
 
+    /** Promises 5, 15, Terms 3: an empty text, FAULTS 1 and 2. */
     private static void faults() {
         SingingSaw x = new SingingSaw();
         Check.fine(HAND, x, "", 0);
@@ -50,6 +51,7 @@ public final class HandTest {
         Check.due("the HAND stays with a FAULT", x.count(3), 100);
     }
 
+    /** Promises 5, 15, Terms 3: 200 TICKS and 201. */
     private static void tooManyTicks() {
         SingingSaw x = new SingingSaw();
         Check.fine(HAND, x, "wait 99;wait 99;wait 2;", 200);
@@ -63,6 +65,7 @@ public final class HandTest {
         Check.due("tick(201, 0)", Check.tick(x, 201, 0), Check.THROWN);
     }
 
+    /** Promises 5, 15, Terms 3: 300 bytes and 301. */
     private static void tooLong() {
         SingingSaw x = new SingingSaw();
         Check.fine(HAND, x, "wait 5;" + " ".repeat(293), 5);
@@ -86,6 +89,7 @@ public final class HandTest {
         Check.due("one behind", Check.tick(x, bends.length / 2 + 1, 0), Check.THROWN);
     }
 
+    /** Promise 16, Terms 3: at, to, wait; t and what outside on each side. */
     private static void moving() {
         SingingSaw x = new SingingSaw();
         ticks(x, "wait 2;", 0, 0, 0, 0);
@@ -100,6 +104,7 @@ public final class HandTest {
         Check.due("tick(MAX, 0)", Check.tick(x, Integer.MAX_VALUE, 0), Check.THROWN);
     }
 
+    /** Promise 16, Terms 3: shake, 9999 either way at most. */
     private static void shaking() {
         SingingSaw x = new SingingSaw();
         ticks(x, "at 1 100;shake 7 in 9;wait 1;", 1, 107, 1, 100, 1, 93, 1, 100, 1, 107, 1, 100, 1, 93, 1, 100, 1, 107, 1, 100);
@@ -109,6 +114,7 @@ public final class HandTest {
         ticks(x, "at 0 50;shake 20 in 1;to 10 40 in 2;", 0, 70, 5, 45, 10, 40);
     }
 
+    /** Promise 16: VOICE, PIECE and how long it RINGS; 0, 99 and 0 without one. */
     private static void voices() {
         SingingSaw x = new SingingSaw();
         Check.blade(x, "piece 5 10 10;unit 10;");

@@ -93,7 +93,7 @@ public final class ImageTest {
         }
     }
 
-    /** Two images that are unlike in everything, restored by turns, with changes between that neither sees. */
+    /** Promises 35, 36: two images that are unlike in everything, restored by turns, with changes between that neither sees. */
     private static void unlike() {
         SingingSaw x = new SingingSaw();
         x.image(1);
@@ -149,7 +149,7 @@ public final class ImageTest {
         Check.due("take(0)", x.take(0), true);
     }
 
-    /** An image of what is empty: HAND, BOOK, SHELF and SENTENCE are empty again; one of a full BOOK is full. */
+    /** Promises 35, 36: an image of what is empty: HAND, BOOK, SHELF and SENTENCE are empty again; one of a full BOOK is full. */
     private static void empty() {
         SingingSaw x = new SingingSaw();
         Check.due("image(0) of a new object", x.image(0), true);

@@ -14,6 +14,7 @@ public final class SentenceTest {
         Check.finish("SentenceTest");
     }
 
+    /** Promise 33: how many ONES. */
     private static void ones() {
         SingingSaw x = new SingingSaw();
         Check.fine(SENTENCE, x, "sings", 1);
@@ -25,6 +26,7 @@ public final class SentenceTest {
         Check.fine(SENTENCE, x, "not (sings and not broken) or (tick < 5 or tone = 7) and twice", 9);
     }
 
+    /** Promises 5, 33, Terms 5: FAULT 1. */
     private static void faults() {
         SingingSaw x = new SingingSaw();
         Check.fault(SENTENCE, x, "", 0, 1);
@@ -61,6 +63,7 @@ public final class SentenceTest {
         Check.fault(SENTENCE, x, "places<5 tick", 9, 1);
     }
 
+    /** Promises 5, 33, Terms 5: 20 ONES and a 21st, 8 within one another and a ninth. */
     private static void tooManyOnes() {
         SingingSaw x = new SingingSaw();
         String twenty = "sings" + " or sings".repeat(19);
@@ -86,6 +89,7 @@ public final class SentenceTest {
         Check.due("the SENTENCE stays", x.said(-1), 0);
     }
 
+    /** Promises 5, 33, Terms 5: 200 bytes and 201. */
     private static void tooLong() {
         SingingSaw x = new SingingSaw();
         Check.fine(SENTENCE, x, "sings" + " ".repeat(195), 1);
@@ -117,7 +121,7 @@ public final class SentenceTest {
         return so.toString().trim();
     }
 
-    /** Each WHAT with each SIGN against what the other calls tell of the TICKS. */
+    /** Promise 34: each WHAT with each SIGN against what the other calls tell of the TICKS. */
     private static void truths() {
         SingingSaw x = withHand();
         int ticks = x.count(3);
@@ -166,7 +170,7 @@ public final class SentenceTest {
         Check.due("twice there", x.run(3), 1);
     }
 
-    /** What a TICK tells is its own: nothing of the one ahead is left in it. */
+    /** Promise 34: what a TICK tells is its own; nothing of the one ahead is left in it. */
     private static void tickByTick() {
         SingingSaw x = withHand();
         Check.hand(x, "wait 1;at 99 99;wait 1;at 0 0;wait 1;");
@@ -187,7 +191,7 @@ public final class SentenceTest {
         Check.due("'" + sentence + "' is so in " + got + ", due: " + due, got.equals(due), true);
     }
 
-    /** 'and' binds closer than 'or', 'not' closest; TICKS 1 to 8 stand for all truths of three. */
+    /** Promise 34: 'and' binds closer than 'or', 'not' closest; TICKS 1 to 8 stand for all truths of three. */
     private static void bindings() {
         SingingSaw x = new SingingSaw();
         Check.hand(x, "wait 8;");
@@ -215,6 +219,7 @@ public final class SentenceTest {
         text(x, "tick>0 and (tick>1 and (tick>2 and (tick>3 and (tick>4))))", "5 6 7 8");
     }
 
+    /** Promise 34: no SENTENCE, no TICKS, all 200; k outside on each side; what it is so with changes. */
     private static void saying() {
         SingingSaw x = new SingingSaw();
         for (int k = -2; k < 2; k++) {

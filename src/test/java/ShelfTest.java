@@ -11,6 +11,7 @@ public final class ShelfTest {
         Check.finish("ShelfTest");
     }
 
+    /** Promises 27, 28, 32: places 0 to 3, and one outside on each side; an empty place. */
     private static void shelf() {
         SingingSaw x = new SingingSaw();
         for (int k = 0; k < 4; k++) {
@@ -66,6 +67,7 @@ public final class ShelfTest {
         return x;
     }
 
+    /** Promise 29: bits, SLIP, told once and 40 times, an empty SHELF. */
     private static void whichBlades() {
         SingingSaw x = withShelf();
         // VOICES: 10 and 15 on the first blade, 20 and more on the second, the third bears the first BEND alone.
@@ -89,6 +91,7 @@ public final class ShelfTest {
         Check.due("an empty SHELF", which(empty, 200, 0, 10), 0);
     }
 
+    /** Promise 29: nothing told, 41 told, BENDS and tones outside; the tape is empty. */
     private static void wrongWhich() {
         SingingSaw x = withShelf();
         Check.due("nothing told", which(x, 0), -1);
@@ -112,6 +115,7 @@ public final class ShelfTest {
         Check.due("four bytes", x.which(0), -1);
     }
 
+    /** Promise 32: s and e at their ends, and one outside on each side. */
     private static void forging() {
         SingingSaw x = new SingingSaw();
         Check.blade(x, "piece 3 9 9;piece 2 20 4 teeth 3 own -2;unit 7;bear 8;");
@@ -173,6 +177,7 @@ public final class ShelfTest {
         Check.due("formBy() later", x.formBy(), best > 0 ? most : -1);
     }
 
+    /** Promises 30, 31: against forge(), breaks() and range(). */
     private static void forms() {
         form("piece 20 60 5;unit 60;bear 9999;", 4, 8, 2500, -2000, 900, -500, -700, 300);
         form("piece 20 60 5;unit 60;bear 1500;", 4, 8, 2500, -2000, 900, -500, -700, 300);
@@ -183,6 +188,7 @@ public final class ShelfTest {
         form("piece 12 40 5;unit 40;", 20, 20, 0, 0, 5, 5);
     }
 
+    /** Promises 30, 31: the first of like ones; low and high outside; an empty BOOK; all broken. */
     private static void formsThatTie() {
         SingingSaw x = new SingingSaw();
         Check.due("form of an empty BOOK", x.form(4, 5), -2);

@@ -8,6 +8,7 @@ public final class TapeTest {
         Check.finish("TapeTest");
     }
 
+    /** Promise 1, and "ahead of any" of promises 5, 11, 12, 14, 21, 23, 25, 31; nothing is there to take (28), restore (36) or say (34). */
     private static void newObject() {
         SingingSaw x = new SingingSaw();
         for (int i = 0; i < 3; i++) {
@@ -40,6 +41,7 @@ public final class TapeTest {
         }
     }
 
+    /** Promise 2: 540 bytes are taken, 541 are not, and none come; the highest byte first. */
     private static void feeding() {
         SingingSaw x = new SingingSaw();
         for (int i = 1; i <= 27; i++) {
@@ -72,6 +74,7 @@ public final class TapeTest {
         Check.due("its thick", x.piece(2, 1), 4);
     }
 
+    /** Promise 3: n from 0 to as many as there are, and one outside on each side. */
     private static void ending() {
         SingingSaw x = new SingingSaw();
         Check.due("end(0) of nothing", x.end(0), true);
@@ -95,6 +98,7 @@ public final class TapeTest {
         Check.due("their width", x.piece(0, 0), 8);
     }
 
+    /** Promise 37: what 0 to 5, and one outside on each side. */
     private static void counting() {
         SingingSaw x = new SingingSaw();
         Check.blade(x, "piece 7 30 5;bear 4321;unit 77;");

@@ -31,6 +31,7 @@ public final class ToneTest {
         Check.due("bow(MIN)", x.bow(Integer.MIN_VALUE), -1);
     }
 
+    /** Promises 10, 11, 12: KEPT and LOST on each side, RINGS of the lesser side. */
     private static void keptAndLost() {
         SingingSaw x = new SingingSaw();
         Check.blade(x, BendTest.own(9, -3, 9) + "unit 4;");
@@ -55,6 +56,7 @@ public final class ToneTest {
         tone(x, 0, 0, 5, 0, 0, 0, 0, 0);
     }
 
+    /** Promises 10, 11, 18: f f just the WALLS. */
     private static void keptWithoutRinging() {
         SingingSaw x = new SingingSaw();
         // f f must be above the WALL: with f 5 the walls of 25 still hold, but nothing rings.
@@ -72,6 +74,7 @@ public final class ToneTest {
         Check.due("the one that rings longer", x.voice(0, 1), 3);
     }
 
+    /** Promise 11: TWICE, and not. */
     private static void twice() {
         SingingSaw x = new SingingSaw();
         Check.blade(x, BendTest.own(9, 1, 3, 1, 9) + "unit 2;");
@@ -84,6 +87,7 @@ public final class ToneTest {
         Check.due("tone(0, 0, 2, 0)", x.tone(0, 0, 2, 0), -1);
     }
 
+    /** Promise 10: a tone of 2000 and of 1; 2000 is not enough. */
     private static void highest() {
         SingingSaw x = new SingingSaw();
         Check.blade(x, "piece 3 9 9;unit 2000;");
@@ -107,6 +111,7 @@ public final class ToneTest {
         Check.due("tone(2, 2, 0, 0)", x.tone(2, 2, 0, 0), -1);
     }
 
+    /** Promises 10, 13: a STRAIN that is just 'bear' has a TONE, one above has none. */
     private static void broken() {
         SingingSaw x = new SingingSaw();
         Check.blade(x, BendTest.own(9, 3, 9) + "unit 4;bear 45;");
@@ -116,6 +121,7 @@ public final class ToneTest {
         Check.due("where of a broken one", x.where(0, 0, 0, 0, 0), -1);
     }
 
+    /** Promises 10, 13: k and m outside on each side. */
     private static void wrongOnes() {
         SingingSaw x = new SingingSaw();
         Check.due("run(0) ahead of any", x.run(0), -1);
@@ -131,6 +137,7 @@ public final class ToneTest {
         Check.due("tone(0, 0, 0, 5)", x.tone(0, 0, 0, 5), 1100);
     }
 
+    /** Promises 11, 12: what a later call that is NONE, or another BLADE, leaves. */
     private static void latestStays() {
         SingingSaw x = new SingingSaw();
         Check.blade(x, BendTest.own(9, 3, 9) + "unit 4;");
@@ -149,6 +156,7 @@ public final class ToneTest {
         Check.due("bow(7)", x.bow(7), -1);
     }
 
+    /** Promises 13, 14: the first of like ones; worth() 0 ahead of any. */
     private static void whereToBow() {
         SingingSaw x = new SingingSaw();
         Check.due("worth() ahead of any", x.worth(), 0);

@@ -184,6 +184,8 @@ public final class ShelfTest {
         form("piece 20 60 5;unit 60;bear 100;", 4, 5, 2500, -2000, 900, -500, -700, 300);
         form("piece 12 40 5 own 3;unit 40;bear 9999;", 5, 10, 2500, -2000, 900, -500);
         form("piece 12 40 5 own 3;unit 40;bear 9999;", 15, 20, 9000, -8000, 5000, -2500);
+        form("piece 7 40 5 teeth 9 own -3;piece 5 30 9 own 6;unit 40;bear 9999;", 5, 10, 2500, -2000, 900, -500);
+        form("piece 4 9 2 teeth 8;piece 9 90 5 teeth 1;unit 12;bear 900;", 3, 8, 400, -300, 300, -800, -100, 200);
         form("piece 12 40 5;unit 40;", 1, 1, 0, 0);
         form("piece 12 40 5;unit 40;", 20, 20, 0, 0, 5, 5);
     }

@@ -800,6 +800,14 @@ public final class TermsTest {
         Check.due("tick(1, 3)", x.tick(1, 3), 1);
         so(x, "sings", "1");
         so(x, "tone=1", "1");
+        // And the only one.
+        x = saw(owns(9, 0, 9) + "unit 1;");
+        x.write(0, 0);
+        for (int what = 0; what <= 3; what++) {
+            Check.due("range(" + what + ") of a VOICE of 1", x.range(what), what < 2 ? 1 : 0);
+        }
+        Check.due("form(5, 5) with a VOICE of 1", x.form(5, 5), 505);
+        Check.due("formBy() with a VOICE of 1", x.formBy(), 0);
     }
 
     /** Terms 4: "RANGE of a BLADE: the lowest and the highest VOICE of all BENDS of the BOOK." Promise 19. */
@@ -991,6 +999,9 @@ public final class TermsTest {
         even("piece 6 36 5 own 1;unit 23;bear 1630;", -714, 711, 826, -177, 7, 0, 7, 11, 13, 20);
         even("piece 10 38 5;unit 57;bear 9999;", -1920, 1503, 699, -2094, 95, 0, 0, 95, 7, 98, 92);
         even("piece 13 27 5 own 4;unit 52;bear 9999;", 165, -980, 2396, -1914, 39, 0, 8, 47, 31, 69, 92);
+        // One step beyond the other BEND there would be a nearer VOICE: PART 100 is the last one.
+        even("piece 9 82 5 own 1;piece 2 40 5 own 5;unit 65;bear 2782;", -1753, -626, 1725, -656, 68, 0, 14, 27, 31, 99, 99);
+        even("piece 14 30 5 own 7;piece 2 40 5 own 24;unit 55;bear 9999;", 1769, -1373, -188, -1053, 82, 0, 16, 16, 16, 98, 98, 98);
         SingingSaw x = saw("piece 5 10 10;unit 10;");
         x.write(400, -400);
         x.write(800, -400);
